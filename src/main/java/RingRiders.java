@@ -554,19 +554,19 @@ public final class RingRiders {
     private boolean allFits(int guess, int one, int guessed) {
         Rows rows = guess == OF_PHASE ? now.seen : guess == OF_HORSE ? now.notes : now.marks;
         for (int row = 0; row < rows.size; row++) {
-            if (rows.at(row, 0) == one && !rowFits(guess, rows, row, guessed)) {
+            if (rows.at(row, 0) == one && !rowFits(guess, one, rows, row, guessed)) {
                 return false;
             }
         }
         return true;
     }
 
-    private boolean rowFits(int guess, Rows rows, int row, int guessed) {
+    private boolean rowFits(int guess, int one, Rows rows, int row, int guessed) {
         int b = rows.at(row, 1);
         int c = rows.at(row, 2);
         int d = rows.at(row, 3);
         switch (guess) {
-            case OF_PHASE: return Horses.high(now.round.horseKind[rows.at(row, 0)], b, guessed, c) == d;
+            case OF_PHASE: return Horses.high(now.round.horseKind[one], b, guessed, c) == d;
             case OF_HORSE: return Horses.high(guessed, c, b, d) == rows.at(row, 4);
             default: return Arms.reach(guessed, b, c, d) == rows.at(row, 4);
         }

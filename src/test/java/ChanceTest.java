@@ -42,6 +42,12 @@ public final class ChanceTest {
             due.is("pair " + k, x.hands(0, 1, k), pairs[k]);
         }
         due.is("no fourth", x.hands(0, 1, 3), -5);
+        // Of 12 seats by 1 seat 4 comes by in tick 8, which pays for naming 2; seat 3 in tick 9, too late.
+        x = Due.told("round 12 1;rider 0 1 0;rider 2 9 4;");
+        due.is("the eighth tick counts", x.hands(0, 1, -1), 2);
+        due.is("0 and 2", x.hands(0, 1, 1), 2);
+        x = Due.told("round 12 1;rider 0 1 0;rider 2 9 3;");
+        due.is("the ninth does not", x.hands(0, 1, -1), 1);
     }
 
     private static void handsRefused() {

@@ -190,6 +190,10 @@ public final class RoundTest {
         faultAt(" ", 1);
         faultAt("r", 0);
         faultAt("rounds 4 0;", 0);
+        faultAt("rounda 4 0;", 0);
+        faultAt("roundz 4 0;", 0);
+        faultAt("round{ 4 0;", 5);
+        faultAt("round` 4 0;", 5);
         faultAt("Round 4 0;", 0);
         faultAt(";", 0);
         faultAt("  4", 2);
