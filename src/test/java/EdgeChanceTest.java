@@ -43,6 +43,29 @@ public final class EdgeChanceTest {
         // By 1 SEAT 4 of 12 is at the POST in TICK 8: to name 2 for it is as good as 0. SEAT 3 is in TICK 9, too late.
         rest("round 12 1;rider 0 1 0;rider 0 5 4;", 0, 2);
         rest("round 12 1;rider 0 1 0;rider 0 5 3;", 0);
+        // The one on SEAT 2 of 4 takes 0, 2, 4, 2, the one on SEAT 1 0, 2, 0, 2: by 1 and 1 the one would name 3, and only 3.
+        rest("round 4 1;rider 2 9 2;rider 2 9 1;", 20);
+        // What a third one takes is neither's, whatever number that one has.
+        String[] others = {"rider 2 9 3;rider 0 1 0;rider 0 1 1;", "rider 0 1 0;rider 2 9 3;rider 0 1 1;",
+            "rider 0 1 0;rider 0 1 1;rider 2 9 3;"};
+        for (int third = 0; third < 3; third++) {
+            int a = (third + 1) % 3;
+            int b = (third + 2) % 3;
+            Edge.told(due, "round 4 1;" + others[third]).answers(1, "hands", a, b, Edge.NONE).answers(0, "hands", a, b, 0)
+                    .answers(1, "hands", b, a, Edge.NONE).answers(0, "hands", b, a, 0);
+        }
+    }
+
+    @Says("T: half (cut) of both together is the SPEED: to the one twice the RINGS that RIDER a takes, less i")
+    static void handsTwice() {
+        // A call's answer does not hang on what was asked ahead of it.
+        RingRiders x = Due.told("round 6 1;rider 2 9 3;rider 2 9 0;rider 0 1 1;rider 0 1 2;");
+        int[] pairs = {0, 20, 33};
+        for (int k = 0; k < pairs.length; k++) {
+            due.is("both of whom take", x.hands(0, 1, k), pairs[k]);
+            due.is("neither of whom takes", x.hands(2, 3, Edge.NONE), 1);
+            due.is("three of the first", x.hands(0, 1, Edge.NONE), 3);
+        }
     }
 
     @Says("32: -5: not so many.")
@@ -99,6 +122,11 @@ public final class EdgeChanceTest {
         slips(child, 2, 6, 9, 0, 1);
         // It stays at 8 for the one who comes behind, if the one ahead slips: 3 by 10 times 7 by 10.
         slips("round 4 2;rider 0 5 0;rider 0 5 2;", 1, 2, 3, 21, 100);
+        // By 2 the sailor on SEAT 0 is at the POST in TICKS 2, 4, 6, the other one in TICKS 1, 3, 5.
+        slips("round 4 2;rider 2 9 0;rider 2 9 2;", 3, 6, 3, 343, 1000);
+        slips("round 4 2;rider 2 9 0;rider 2 9 2;", 1, 6, 3, 973, 1000);
+        slips("round 4 2;rider 2 9 2;rider 2 9 0;", 3, 5, 3, 343, 1000);
+        slips("round 4 2;rider 2 9 2;rider 2 9 0;", 3, 4, 3, 0, 1);
     }
 
     @Says("T: the chance that a RIDER has x (0 .. 99) RINGS or more behind n (0 .. 6) TICKS: THE FRACTION.")
@@ -131,7 +159,7 @@ public final class EdgeChanceTest {
     /** The sailor with so many RINGS, THE RING at 0. */
     private static RingRiders withRings(int rings) {
         RingRiders x = Due.told("round 4 0;rider 2 9 0;");
-        while (x.of(0, 3) < rings) {
+        for (int k = 0; k < 20 && x.of(0, 3) < rings; k++) {
             x.hangs(0);
             x.ticks(Math.min(14, rings - x.of(0, 3)));
         }
@@ -194,6 +222,15 @@ public final class EdgeChanceTest {
         // POST in the last of these alone.
         Edge late = Edge.told(due, "round 5 1;horse 0 1 0;rider 0 1 0;");
         late.answers(0, "evenings", 999962, 59).answers(1, "evenings", 999962, 60);
+        // From now on: three TICKS of 4 SEATS by 1 on, ANGLE is 3, and by SEED 0 SEAT 1 is at the POST in TICKS 1, 2, 3.
+        RingRiders x = Due.told("round 4 1;rider 2 9 1;");
+        due.is("ahead of the TICKS", x.evenings(0, 3), 0);
+        x.ticks(3);
+        due.is("behind them", x.evenings(0, 3), 3);
+        x.changes(0, 2);
+        due.is("on SEAT 2", x.evenings(0, 3), 0);
+        x.undo();
+        due.is("on SEAT 1 again", x.evenings(0, 3), 3);
         // By all: nobody, and all seats at once, where one is at the POST in each TICK.
         fresh.answers(0, "evenings", 0, 60).answers(0, "evenings", 999999, 0);
         Edge.told(due, "round 4 1;rider 2 9 0;rider 2 9 1;rider 2 9 2;rider 2 9 3;").answers(8, "evenings", 5, 8)

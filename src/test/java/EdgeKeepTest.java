@@ -21,6 +21,11 @@ public final class EdgeKeepTest {
             x.slip(0, 0, 0, 0);
             x.speed(9);
             x.speed(0);
+            for (int row = 0; row < 6; row++) {
+                x.seen(11, 98, 2, 14);
+                x.note(11, 6, 98, 2, 14);
+                x.mark(0, 8, 14, 98, 59);
+            }
             int bad = x.status(0);
             int no = x.status(1);
             due.is("from(" + i + ")", x.from(i), 1);
@@ -41,6 +46,12 @@ public final class EdgeKeepTest {
                 }
                 due.is("KINDS by MARKS of " + rider, x.kinds(rider), twin.kinds(rider));
             }
+            // All numbers of SEEN, NOTES and MARKS are in the digest, which has THE TEXT and THE FRACTION, too.
+            RingRiders like = Edge.richOne();
+            like.clear();
+            like.type(65);
+            like.slip(0, 0, 0, 0);
+            due.is("all of them", x.digest(), like.digest());
             due.is("THE TEXT is not kept", x.count(11), 1);
             due.is("THE FRACTION is not kept: above", x.part(0), 1);
             due.is("THE FRACTION is not kept: below", x.part(1), 1);
@@ -103,6 +114,15 @@ public final class EdgeKeepTest {
             due.is("undone to " + k, x.undo(), k);
         }
         due.is("no more", x.undo(), Edge.NO);
+        // Eight others take the place of these in the round that goes on, not in the IMAGE.
+        for (int k = 0; k < 8; k++) {
+            x.hangs(k);
+        }
+        x.from(1);
+        for (int k = 8; k >= 1; k--) {
+            due.is("undone to " + k + " again", x.undo(), k);
+            due.is("hung as at first", x.count(4), 8);
+        }
     }
 
     @Says("36: BAD.")

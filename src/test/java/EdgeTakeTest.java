@@ -103,6 +103,10 @@ public final class EdgeTakeTest {
         for (int k = 0; k < pairs.length; k++) {
             six.answers(pairs[k], "level", k);
         }
+        // Two gallops of one PHASE are level; of PHASES beside one another one is now as HIGH as the other a TICK later.
+        Edge.told(due, "round 4 1;horse 0 1 0;horse 1 1 0;rider 0 1 0;rider 0 1 1;").answers(1, "level", Edge.NONE);
+        Edge.told(due, "round 4 1;horse 0 1 0;horse 1 1 1;rider 0 1 0;rider 0 1 1;").answers(0, "level", Edge.NONE);
+        Edge.told(due, "round 4 1;horse 0 1 1;horse 1 1 0;rider 0 1 0;rider 0 1 1;").answers(0, "level", Edge.NONE);
         // It is HIGH that is equal, not how far one REACHES; now, not in TICK 0.
         Edge.told(due, "round 4 1;horse 1 1 0;rider 2 9 0;rider 0 1 1;rider 0 1 2;go 1;").answers(1, "level", Edge.NONE)
                 .answers(2, "level", 0);
@@ -142,6 +146,10 @@ public final class EdgeTakeTest {
         Edge.told(due, "round 8 1;rider 0 1 1;rider 0 5 0;go 8;").answers(8, "again");
         // It would be behind 24, but for the RING that is taken in TICK 12.
         Edge.told(due, "round 9 3;horse 0 1 0;rider 0 1 0;").answers(Edge.NONE, "again");
+        // Of six the last one takes, or nobody does.
+        String six = "round 8 1;rider 0 1 1;rider 0 1 2;rider 0 1 3;rider 0 1 4;rider 0 1 5;";
+        Edge.told(due, six + "rider 0 5 0;").answers(Edge.NONE, "again");
+        Edge.told(due, six + "rider 0 4 0;").answers(8, "again");
     }
 
     @Says({"T: FAST for a RIDER and m (1 .. 60): the SPEED (0 .. 3), kept, by which one takes most RINGS in m TICKS; of like"
@@ -156,6 +164,8 @@ public final class EdgeTakeTest {
         late.answers(1, "fast", 0, 60, 0).answers(1, "fast", 0, 60, 1);
         late.answers(2, "fast", 0, 59, 0).answers(1, "fast", 0, 59, 1);
         late.answers(2, "fast", 0, 12, 0).answers(0, "fast", 0, 11, 0).answers(0, "fast", 0, 11, 1);
+        // There is no SPEED 4, by which SEAT 8 of 12 would come.
+        Edge.told(due, "round 12 1;rider 2 9 8;").answers(0, "fast", 0, 1, 0).answers(0, "fast", 0, 1, 1);
         // None by any: the least.
         Edge.told(due, "round 4 3;rider 0 1 0;").answers(0, "fast", 0, 60, 0).answers(0, "fast", 0, 60, 1);
         // Sixty RINGS in 60 TICKS are not to be had: the sailor's are 8 .. 15, by 0.
@@ -213,6 +223,7 @@ public final class EdgeTakeTest {
         lever("round 4 1;rider 2 9 1;", 1, 1, 3);
         lever("round 4 1;rider 2 9 0;", 1, 1, 0);
         lever("round 5 1;rider 2 9 1;", 1, 0, 0);
+        lever("round 12 1;rider 2 9 8;", 1, 0, 0);
         lever("round 4 1;rider 2 9 0;", 6, 6, 0, 0, 0, 0, 0, 0);
         lever("round 4 1;rider 0 1 0;", 6, 0, 0, 0, 0, 0, 0, 0);
         // On a gallop of PHASE 6 one of ARM 1 REACHES 8 in TICK 6 alone, three away from the POST.
@@ -227,6 +238,22 @@ public final class EdgeTakeTest {
         // A swan that is fast is low: of ARM 5 7 is REACHED by 1 or 0, 8 by 0 alone; three away in two TICKS.
         lever("round 12 0;horse 9 3 0;rider 0 5 9;ring 7;", 3, 2, 2, 1, 0);
         lever("round 12 0;horse 9 3 0;rider 0 5 9;ring 8;", 6, 1, 0, 0, 0, 0, 3, 0);
+    }
+
+    @Says("T: by which one takes most RINGS: how many; the k-th SPEED of the first such row (rising).")
+    static void leverOfOthers() {
+        // RIDER 0 on SEAT 3 is one away, RIDER 1 on SEAT 1 three, RIDER 2 on SEAT 2 two: each has a row of one's own, and
+        // what was asked ahead of it does not matter.
+        RingRiders x = Due.told("round 4 1;rider 2 9 3;rider 2 9 1;rider 2 9 2;rider 0 1 0;");
+        int[] away = {1, 3, 2, 0};
+        int[] most = {2, 2, 2, 0};
+        for (int again = 0; again < 2; again++) {
+            for (int i = 0; i < 4; i++) {
+                due.is("most of RIDER " + i, x.lever(i, 2, Edge.NONE), most[i]);
+                due.is("SPEED 0 of RIDER " + i, x.lever(i, 2, 0), away[i]);
+                due.is("SPEED 1 of RIDER " + i, x.lever(i, 2, 1), 0);
+            }
+        }
     }
 
     @Says("21: -5: not so many.")

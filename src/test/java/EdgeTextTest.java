@@ -191,6 +191,16 @@ public final class EdgeTextTest {
     static void firstOfSome() {
         faultAt("rounds 4 0;", 0);
         faultAt("roun 4 0;", 0);
+        String[] items = {"horse 0 0 0;", "rider 0 1 0;", "ring 0;", "go 1;"};
+        for (String item : items) {
+            // Each letter of its word by another one.
+            for (int k = 0; k < item.indexOf(' '); k++) {
+                faultAt(FOUR + item.substring(0, k) + "q" + item.substring(k + 1), 10);
+            }
+        }
+        for (int k = 0; k < 5; k++) {
+            faultAt("round".substring(0, k) + "q" + "round".substring(k + 1) + " 4 0;", 0);
+        }
         faultAt(FOUR + "horses 0 0 0;", 10);
         faultAt(FOUR + "  hors 0 0 0;", 12);
         faultAt(FOUR + "riders 0 1 0;", 10);
