@@ -35,8 +35,8 @@ public final class EdgeTickTest {
     /** The state of a text, so many TICKS on, by 60 and less at once. */
     static RingRiders at(int tick, String text) {
         RingRiders x = Due.told(text);
-        for (int k = 0; k < 200 && x.count(5) < tick; k++) {
-            x.ticks(Math.min(60, tick - x.count(5)));
+        for (int left = tick - x.count(5); left > 0; left -= 60) {
+            x.ticks(Math.min(60, left));
         }
         return x;
     }

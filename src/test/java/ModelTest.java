@@ -3,8 +3,9 @@ import java.util.Random;
 /** Runs of drawn calls, the same on the program and on the model, every answer and every digest compared. */
 public final class ModelTest {
     private static final Due due = new Due("ModelTest");
-    private static final int RUNS = 1500;
-    private static final int CALLS = 300;
+    private static final int RUNS = 4000;
+    // An object is promised for 512 calls; the last thing that is drawn may type a text of some 150 bytes.
+    private static final int CALLS = 340;
     private static final String[] WORDS = {"round", "horse", "rider", "ring", "go"};
     private static final String[] ODD = {"rounds", "r", "x", "100", "-", "A", ";", "21", "13", "000", "\t"};
 
@@ -12,6 +13,7 @@ public final class ModelTest {
     private final RingRiders x = new RingRiders();
     private final Model y = new Model();
     private final int run;
+    private int calls;
 
     private ModelTest(int run) {
         this.run = run;
@@ -30,7 +32,7 @@ public final class ModelTest {
             type(text());
             same("read", x.read(), y.read());
         }
-        for (int k = 0; k < CALLS; k++) {
+        for (int k = 0; calls < CALLS; k++) {
             // Those that tell are drawn as often as those that change, so that states are looked at from all sides.
             switch (random.nextInt(4)) {
                 case 0 -> change();
@@ -46,6 +48,7 @@ public final class ModelTest {
     }
 
     private void same(String call, long got, long want) {
+        calls++;
         due.is("run " + run + ": " + call, got, want);
     }
 
